@@ -75,7 +75,7 @@ public final class NetHouse {
         if (net.stepKinds[step] < GUARDED) {
             return NO;
         }
-        net.needs[crossing(step, place)] = n;
+        net.tellNeed(step, place, n);
         netChanges();
         return 0;
     }
@@ -87,7 +87,7 @@ public final class NetHouse {
         if (net.stepKinds[step] < STOPPED) {
             return NO;
         }
-        net.closed[crossing(step, place)] = closed;
+        net.tellClosed(step, place, closed);
         netChanges();
         return 0;
     }
@@ -544,7 +544,7 @@ public final class NetHouse {
         if (!isSetKind(what) || !net.hasPlaces(bits)) {
             return BAD;
         }
-        return bits != 0 && net.breaker(bits, what) < 0 ? 1 : 0;
+        return bits != 0 && net.greatestWithin(bits, what) == bits ? 1 : 0;
     }
 
     public int greatest(int bits, int what) {
@@ -659,8 +659,10 @@ public final class NetHouse {
         final int[] closed = new int[MOST_STEPS * MOST_PLACES];
         final int[] wants = new int[MOST_STEPS * MOST_PLACES];
         final int[] gifts = new int[MOST_STEPS * MOST_PLACES];
+        // Sets of places, as bits, so that what a step leaves alone costs little.
         final int[] takesFrom = new int[MOST_STEPS];
         final int[] putsInto = new int[MOST_STEPS];
+        final int[] heeds = new int[MOST_STEPS];
         int places = 0;
         int steps = 0;
         int coloured = 0;
@@ -684,6 +686,22 @@ public final class NetHouse {
             puts[crossing(step, place)] = putsNow;
             takesFrom[step] = withBit(takesFrom[step], place, takesNow > 0);
             putsInto[step] = withBit(putsInto[step], place, putsNow > 0);
+            heedIfAsked(step, place);
+        }
+
+        void tellNeed(int step, int place, int n) {
+            needs[crossing(step, place)] = n;
+            heedIfAsked(step, place);
+        }
+
+        void tellClosed(int step, int place, int closedNow) {
+            closed[crossing(step, place)] = closedNow;
+            heedIfAsked(step, place);
+        }
+
+        private void heedIfAsked(int step, int place) {
+            int at = crossing(step, place);
+            heeds[step] = withBit(heeds[step], place, takes[at] > 0 || needs[at] > 0 || closed[at] == 1);
         }
 
         static int withBit(int set, int place, boolean in) {
@@ -725,17 +743,22 @@ public final class NetHouse {
 
         /** Whether a step MAY go. */
         boolean allows(Holding held, int step) {
-            for (int p = 0; p < places; p++) {
-                int at = crossing(step, p);
-                int n = held.many[p];
-                if (n < takes[at] || n < needs[at] || (n > 0 && closed[at] == 1)) {
-                    return false;
-                }
-                if (takes[at] > 0 && isColoured(p) && held.manyOf(p, wants[at]) < takes[at]) {
+            int first = crossing(step, 0);
+            int heeded = heeds[step];
+            for (int p = 0; p < places && heeded >> p != 0; p++) {
+                if ((heeded >> p & 1) == 1 && !isEnough(held, p, first + p)) {
                     return false;
                 }
             }
             return true;
+        }
+
+        private boolean isEnough(Holding held, int place, int at) {
+            int n = held.many[place];
+            if (n < takes[at] || n < needs[at] || (n > 0 && closed[at] == 1)) {
+                return false;
+            }
+            return takes[at] == 0 || !isColoured(place) || held.manyOf(place, wants[at]) >= takes[at];
         }
 
         boolean urges(Holding held) {
@@ -777,44 +800,49 @@ public final class NetHouse {
         }
 
         void move(Holding held, int step) {
-            for (int p = 0; p < places; p++) {
-                int at = crossing(step, p);
-                if (isColoured(p)) {
-                    held.takeFirst(p, takes[at], wants[at]);
-                    held.appendMany(p, puts[at], gifts[at]);
-                } else if (held.many[p] != WITHOUT_END) {
-                    held.many[p] += puts[at] - takes[at];
+            int first = crossing(step, 0);
+            int touched = takesFrom[step] | putsInto[step];
+            for (int p = 0; p < places && touched >> p != 0; p++) {
+                if ((touched >> p & 1) == 1) {
+                    moveAt(held, p, first + p);
                 }
             }
         }
 
-        int entry(int step, int what) {
-            return what == DRAIN ? putsInto[step] : takesFrom[step];
-        }
-
-        int exit(int step, int what) {
-            return what == DRAIN ? takesFrom[step] : putsInto[step];
-        }
-
-        /** The least step that keeps a set from being a drain (a trap); below 0: none. */
-        int breaker(int set, int what) {
-            for (int s = 0; s < steps; s++) {
-                if ((entry(s, what) & set) != 0 && (exit(s, what) & set) == 0) {
-                    return s;
-                }
+        private void moveAt(Holding held, int place, int at) {
+            if (isColoured(place)) {
+                held.takeFirst(place, takes[at], wants[at]);
+                held.appendMany(place, puts[at], gifts[at]);
+            } else if (held.many[place] != WITHOUT_END) {
+                held.many[place] += puts[at] - takes[at];
             }
-            return -1;
+        }
+
+        /** For each step the places by which it comes into question for a drain (a trap). */
+        private int[] entries(int what) {
+            return what == DRAIN ? putsInto : takesFrom;
+        }
+
+        /** For each step the places of which it must have one in the drain (the trap) then. */
+        private int[] exits(int what) {
+            return what == DRAIN ? takesFrom : putsInto;
         }
 
         int greatestWithin(int set, int what) {
+            int[] in = entries(what);
+            int[] out = exits(what);
             int left = set;
-            // Each turn takes a place away at least, so that many turns are enough.
-            for (int turn = 0; turn < places; turn++) {
-                int step = breaker(left, what);
-                if (step < 0) {
+            // Each turn but the last takes a place away at least, so that many turns are enough.
+            for (int turn = 0; turn <= places; turn++) {
+                int before = left;
+                for (int s = 0; s < steps; s++) {
+                    if ((in[s] & left) != 0 && (out[s] & left) == 0) {
+                        left &= ~in[s];
+                    }
+                }
+                if (left == before) {
                     return left;
                 }
-                left &= ~entry(step, what);
             }
             return left;
         }
@@ -1399,9 +1427,9 @@ public final class NetHouse {
     private static final class Balance {
         private static final int SIDE = 16, WIDE = 32;
 
-        final long[] cells = new long[SIDE * WIDE];
         final int[] out = new int[SIDE];
-        final int[] found = new int[SIDE * SIDE];
+        long[] cells = new long[0];
+        int[] found = new int[0];
         int rows = 0;
         int size = 0;
 
@@ -1421,8 +1449,7 @@ public final class NetHouse {
             size = 0;
             rows = rowsArePlaces ? net.places : net.steps;
             int columns = rowsArePlaces ? net.steps : net.places;
-            Arrays.fill(out, 0);
-            Arrays.fill(cells, 0L);
+            clearRows();
             for (int r = 0; r < rows; r++) {
                 for (int c = 0; c < columns; c++) {
                     cells[r * WIDE + c] = rowsArePlaces ? net.change(c, r) : net.change(r, c);
@@ -1436,6 +1463,15 @@ public final class NetHouse {
             }
             keepRest();
             return true;
+        }
+
+        private void clearRows() {
+            if (cells.length == 0) {
+                cells = new long[SIDE * WIDE];
+                found = new int[SIDE * SIDE];
+            }
+            Arrays.fill(out, 0);
+            Arrays.fill(cells, 0L);
         }
 
         private boolean clearColumn(int column) {
