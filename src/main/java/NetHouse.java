@@ -351,9 +351,7 @@ public final class NetHouse {
         if (!reach.made) {
             return NO;
         }
-        for (int p = 0; p < net.places; p++) {
-            trial.many[p] = hand.numberFor(p);
-        }
+        tryTheRow();
         int i = reach.all.indexOf(trial);
         return i < 0 ? NONE : i;
     }
@@ -448,9 +446,7 @@ public final class NetHouse {
         if (!growth.made) {
             return NO;
         }
-        for (int p = 0; p < net.places; p++) {
-            trial.many[p] = hand.numberFor(p);
-        }
+        tryTheRow();
         for (int i = 0; i < growth.nodes.size; i++) {
             if (growth.nodes.isNowhereBelow(i, trial)) {
                 return i;
@@ -604,6 +600,13 @@ public final class NetHouse {
         goings++;
     }
 
+    /** THE ROW AS MARKS, to be compared with others. */
+    private void tryTheRow() {
+        for (int p = 0; p < net.places; p++) {
+            trial.many[p] = hand.numberFor(p);
+        }
+    }
+
     private static boolean isArc(int n) {
         return n >= 0 && n <= MOST_ARC;
     }
@@ -632,7 +635,7 @@ public final class NetHouse {
         return Arrays.copyOf(old, Math.max(Math.max(need, 16), 2 * old.length));
     }
 
-    /** Halves on bits from the highest place down, leaving a place out first, so that sets come by their bits as numbers. */
+    /** Decides from the highest place down, leaving it out first, so that sets come by their bits as numbers. */
     private static void gather(Net net, SetList list, int chosen, int undecided) {
         if (undecided < 0 || undecided > MOST_PLACES || list.size >= list.most) {
             return;
@@ -743,22 +746,21 @@ public final class NetHouse {
 
         /** Whether a step MAY go. */
         boolean allows(Holding held, int step) {
-            int first = crossing(step, 0);
             int heeded = heeds[step];
             for (int p = 0; p < places && heeded >> p != 0; p++) {
-                if ((heeded >> p & 1) == 1 && !isEnough(held, p, first + p)) {
+                if ((heeded >> p & 1) == 0) {
+                    continue;
+                }
+                int at = crossing(step, p);
+                int n = held.many[p];
+                if (n < takes[at] || n < needs[at] || (n > 0 && closed[at] == 1)) {
+                    return false;
+                }
+                if (takes[at] > 0 && isColoured(p) && held.manyOf(p, wants[at]) < takes[at]) {
                     return false;
                 }
             }
             return true;
-        }
-
-        private boolean isEnough(Holding held, int place, int at) {
-            int n = held.many[place];
-            if (n < takes[at] || n < needs[at] || (n > 0 && closed[at] == 1)) {
-                return false;
-            }
-            return takes[at] == 0 || !isColoured(place) || held.manyOf(place, wants[at]) >= takes[at];
         }
 
         boolean urges(Holding held) {
@@ -800,11 +802,10 @@ public final class NetHouse {
         }
 
         void move(Holding held, int step) {
-            int first = crossing(step, 0);
             int touched = takesFrom[step] | putsInto[step];
             for (int p = 0; p < places && touched >> p != 0; p++) {
                 if ((touched >> p & 1) == 1) {
-                    moveAt(held, p, first + p);
+                    moveAt(held, p, crossing(step, p));
                 }
             }
         }
@@ -885,9 +886,9 @@ public final class NetHouse {
         Holding() {
         }
 
+        /** Only for nets without coloured places, as all that is tried out is. */
         void become(Holding other) {
             System.arraycopy(other.many, 0, many, 0, MOST_PLACES);
-            System.arraycopy(other.things, 0, things, 0, MOST_PLACES);
         }
 
         /** Only for nets without coloured places. */
@@ -911,7 +912,7 @@ public final class NetHouse {
         int manyOf(int place, int want) {
             int found = 0;
             for (int i = 0; i < many[place]; i++) {
-                found += isOfKind(kindAt(place, i), want) ? 1 : 0;
+                found += isOfKind(kindIn(things[place], i), want) ? 1 : 0;
             }
             return found;
         }

@@ -119,6 +119,34 @@ public final class BalanceTest {
         due.is("weights() of 11", y.weights(), Due.SPENT);
         due.is("there are none then", y.count(8), 0);
         due.is("weight(0, 0)", y.weight(0, 0), Due.BAD);
+        theLastRowAlone();
+        justNotTooGreat();
+    }
+
+    /** Ten places weigh up to 9 to the 9; an eleventh makes numbers twice that, or five times. */
+    private static void theLastRowAlone() {
+        for (int puts = 1; puts <= 5; puts += 4) {
+            NetHouse x = chain(10);
+            x.place(0);
+            x.step(0);
+            x.arc(9, 9, 2, 0);
+            x.arc(9, 10, 0, puts);
+            due.is("weights(), 2 for " + puts, x.weights(), puts == 1 ? 1 : Due.SPENT);
+            due.is("weight(0, 10)", x.weight(0, 10), puts == 1 ? 774840978 : Due.BAD);
+        }
+    }
+
+    /** 8 times 8 times 8 times 5 to the 9 is the greatest number that is not beyond. */
+    private static void justNotTooGreat() {
+        for (int last = 5; last <= 6; last++) {
+            NetHouse x = net(13, 12);
+            for (int s = 0; s < 12; s++) {
+                x.arc(s, s, s < 3 ? 8 : s < 11 ? 5 : last, 0);
+                x.arc(s, s + 1, 0, 1);
+            }
+            due.is("weights() with " + last, x.weights(), last == 5 ? 1 : Due.SPENT);
+            due.is("weight(0, 12)", x.weight(0, 12), last == 5 ? 1000000000 : Due.BAD);
+        }
     }
 
     private static void rounds() {

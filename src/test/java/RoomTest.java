@@ -31,13 +31,13 @@ public final class RoomTest {
 
     private static void room(String name, int kind, Act act) {
         act.on(net(kind), 0);
-        long before = threads.getThreadAllocatedBytes(Thread.currentThread().getId());
+        long before = threads.getCurrentThreadAllocatedBytes();
         NetHouse x = net(kind);
         long answers = 0;
         for (int i = 0; i < CALLS; i++) {
             answers += act.on(x, i);
         }
-        long bytes = threads.getThreadAllocatedBytes(Thread.currentThread().getId()) - before;
+        long bytes = threads.getCurrentThreadAllocatedBytes() - before;
         System.out.println(name + ": " + bytes + " bytes (answers add up to " + answers + ")");
         due.holds(name + " make " + bytes + " bytes", bytes < MOST_BYTES);
     }

@@ -3,6 +3,7 @@ import java.util.Random;
 /** Promises 16 to 19 and 27 to 55 in depth: nets made for one matter each, all that is found read out and compared. */
 public final class ThemesTest {
     private static final int TURNS = 250;
+    private static final int WIDE_TURNS = 12;
 
     private static final Due due = new Due("ThemesTest");
 
@@ -17,6 +18,9 @@ public final class ThemesTest {
             new ThemesTest(turn, "sets").drainsAndTraps();
             new ThemesTest(turn, "free").freeNets();
             new ThemesTest(turn, "things").things();
+        }
+        for (int turn = 0; turn < WIDE_TURNS; turn++) {
+            new ThemesTest(turn, "wide").widest();
         }
         due.end();
     }
@@ -401,5 +405,46 @@ public final class ThemesTest {
         }
         twin.ask("count", 2);
         twin.ask("count", 3);
+    }
+
+    // ---- all of it with 16 places and 16 steps
+
+    private void widest() {
+        build(16, 1, 16, 1 + random.nextInt(2));
+        for (int s = 0; s < 16; s++) {
+            twin.ask("arc", s, s, 1, 0);
+            twin.ask("arc", s, (s + 1) % 16, 0, 1);
+            twin.ask("need", s, 15, random.nextInt(2));
+        }
+        twin.ask("free");
+        for (int more = random.nextInt(3); more > 0; more--) {
+            twin.ask("arc", step(), place(), random.nextInt(2), random.nextInt(2));
+        }
+        twin.ask("mark", 15, 1);
+        twin.ask("mark", random.nextInt(15), 1);
+        twin.ask("field", 150);
+        readField();
+        growAndReadTree();
+        readBalances();
+        for (int s = 0; s < 16; s++) {
+            twin.ask("may", s);
+        }
+        twin.ask("run", 20);
+        readThings();
+        twin.ask("back");
+        readThings();
+        twin.ask("works", 15, random.nextInt(16), 100);
+        twin.ask("fault");
+        twin.ask("free");
+        for (int what = 0; what < 2; what++) {
+            twin.ask("sets", what, 500);
+            for (int k = 0; k <= twin.count(10); k++) {
+                twin.ask("bits", k);
+            }
+            twin.ask("isSet", 65535, what);
+            twin.ask("greatest", 65535, what);
+            twin.ask("isSet", 65536, what);
+        }
+        twin.ask("bare");
     }
 }
