@@ -26,7 +26,6 @@ public final class NetHouse {
     private final Balance ofPlaces = new Balance();
     private final Balance ofSteps = new Balance();
     private final SetList told = new SetList();
-    private final SetList leastDrains = new SetList();
     private int goings = 0;
     private int latestFault = NONE;
 
@@ -555,11 +554,11 @@ public final class NetHouse {
     }
 
     public int bare() {
-        leastDrains.collect(net, DRAIN, 1 << MOST_PLACES);
-        for (int i = 0; i < leastDrains.size; i++) {
-            int drain = leastDrains.sets[i];
-            // No trap at all is an empty set, and an empty set holds nothing.
-            if (!now.hasSomethingIn(net.greatestWithin(drain, TRAP))) {
+        int drain = 0;
+        for (int left = 1 << MOST_PLACES; left > 0; left--) {
+            drain = leastBehind(net, DRAIN, drain, 0, net.places);
+            // No trap at all is an empty set, and an empty set holds nothing; no drain is the answer, too.
+            if (drain == 0 || !now.hasSomethingIn(net.greatestWithin(drain, TRAP))) {
                 return drain;
             }
         }
@@ -627,29 +626,30 @@ public final class NetHouse {
         return step * MOST_PLACES + place;
     }
 
-    /** Doubling keeps all that is ever made for one row below four times what it needs in the end. */
-    private static int[] withRoom(int[] old, int need) {
-        if (need <= old.length) {
-            return old;
+    /**
+     * The next least drain (trap) by its bits behind one that is known; 0: there is none. Decides from the highest
+     * place down, leaving it out first, and what holds a drain already cannot grow into a least one.
+     */
+    private static int leastBehind(Net net, int what, int known, int chosen, int undecided) {
+        if (undecided < 0 || undecided > MOST_PLACES) {
+            return 0;
         }
-        return Arrays.copyOf(old, Math.max(Math.max(need, 16), 2 * old.length));
-    }
-
-    /** Decides from the highest place down, leaving it out first, so that sets come by their bits as numbers. */
-    private static void gather(Net net, SetList list, int chosen, int undecided) {
-        if (undecided < 0 || undecided > MOST_PLACES || list.size >= list.most) {
-            return;
+        int widest = chosen | ((1 << undecided) - 1);
+        if (widest <= known) {
+            return 0;
         }
-        int widest = net.greatestWithin(chosen | ((1 << undecided) - 1), list.what);
-        if (widest == 0 || (chosen & ~widest) != 0 || list.hasOneWithin(chosen)) {
-            return;
+        int greatest = net.greatestWithin(widest, what);
+        if (greatest == 0 || (chosen & ~greatest) != 0) {
+            return 0;
         }
-        if (undecided == 0) {
-            list.add(chosen);
-            return;
+        if (net.greatestWithin(chosen, what) != 0) {
+            return chosen > known && net.isLeast(chosen, what) ? chosen : 0;
         }
-        gather(net, list, chosen, undecided - 1);
-        gather(net, list, chosen | (1 << (undecided - 1)), undecided - 1);
+        int without = leastBehind(net, what, known, chosen, undecided - 1);
+        if (without != 0 || undecided == 0) {
+            return without;
+        }
+        return leastBehind(net, what, known, chosen | (1 << (undecided - 1)), undecided - 1);
     }
 
     /** Places and steps, and what each step asks of each place. */
@@ -848,6 +848,19 @@ public final class NetHouse {
             return left;
         }
 
+        /** Whether a set is a drain (a trap), and has no other one within. */
+        boolean isLeast(int set, int what) {
+            if (set == 0 || greatestWithin(set, what) != set) {
+                return false;
+            }
+            for (int p = 0; p < places; p++) {
+                if ((set >> p & 1) == 1 && greatestWithin(set & ~(1 << p), what) != 0) {
+                    return false;
+                }
+            }
+            return true;
+        }
+
         boolean isFree() {
             if (coloured > 0 || hasStepAbove(0)) {
                 return false;
@@ -961,7 +974,7 @@ public final class NetHouse {
     /** The latest goings, in a ring: the oldest one gives way. */
     private static final class Past {
         final int[] steps = new int[MOST_PAST];
-        long[] things = new long[0];
+        final long[] things = new long[MOST_PAST * MOST_PLACES];
         int size = 0;
         int end = 0;
 
@@ -975,9 +988,6 @@ public final class NetHouse {
         void note(Net net, Holding before, int step) {
             if (net.coloured > 0) {
                 // Marks can be reckoned back, but not which things went, nor from where.
-                if (things.length == 0) {
-                    things = new long[MOST_PAST * MOST_PLACES];
-                }
                 System.arraycopy(before.things, 0, things, end * MOST_PLACES, MOST_PLACES);
             }
             steps[end] = step;
@@ -992,7 +1002,7 @@ public final class NetHouse {
             for (int p = 0; p < net.places; p++) {
                 held.many[p] -= net.change(step, p);
             }
-            if (things.length > 0) {
+            if (net.coloured > 0) {
                 System.arraycopy(things, end * MOST_PLACES, held.things, 0, MOST_PLACES);
             }
             return step;
@@ -1002,8 +1012,8 @@ public final class NetHouse {
     /** THE ROW and THE WAY. */
     private static final class Hand {
         final int[] row = new int[MOST_ROW];
+        final int[] way = new int[MOST_WAY];
         int rowSize = 0;
-        int[] way = new int[0];
         int waySize = 0;
 
         Hand() {
@@ -1022,7 +1032,6 @@ public final class NetHouse {
         }
 
         void layBehind(int step) {
-            way = withRoom(way, waySize + 1);
             way[waySize] = step;
             waySize++;
         }
@@ -1032,21 +1041,26 @@ public final class NetHouse {
     private static final class Markings {
         private static final int BUCKETS = 1024, TO_BUCKET = 22;
 
+        final int[] cells;
+        final int[] former;
+        final int[] by;
+        final int[] links;
+        final int[] heads = new int[BUCKETS];
         int width = 0;
         int size = 0;
-        int[] cells = new int[0];
-        int[] former = new int[0];
-        int[] by = new int[0];
-        int[] heads = new int[0];
-        int[] links = new int[0];
 
-        Markings() {
+        /** Room for so many of the widest ones: no call has to make more. */
+        Markings(int most) {
+            int room = Math.max(1, Math.min(most, MOST_FIELD));
+            cells = new int[room * MOST_PLACES];
+            former = new int[room];
+            by = new int[room];
+            links = new int[room];
         }
 
         void begin(int places) {
             width = places;
             size = 0;
-            heads = withRoom(heads, BUCKETS);
             Arrays.fill(heads, -1);
         }
 
@@ -1081,10 +1095,6 @@ public final class NetHouse {
         }
 
         void add(Holding held, int from, int step) {
-            cells = withRoom(cells, (size + 1) * width);
-            former = withRoom(former, size + 1);
-            by = withRoom(by, size + 1);
-            links = withRoom(links, size + 1);
             System.arraycopy(held.many, 0, cells, size * width, width);
             former[size] = from;
             by[size] = step;
@@ -1139,7 +1149,6 @@ public final class NetHouse {
         /** THE WAY becomes the steps that led to number i. */
         void retrace(int i, Hand hand) {
             int depth = depthOf(i);
-            hand.way = withRoom(hand.way, depth);
             hand.waySize = depth;
             int at = i;
             for (int k = depth - 1; k >= 0; k--) {
@@ -1151,17 +1160,17 @@ public final class NetHouse {
 
     /** THE FIELD. What leads where is asked backwards, over lists of the goings that come in at a marking. */
     private static final class Field {
-        final Markings all = new Markings();
+        final Markings all = new Markings(MOST_FIELD);
         final Holding from = new Holding();
         final Holding to = new Holding();
+        final int[] nexts = new int[MOST_FIELD * MOST_STEPS];
+        final int[] firstIn = new int[MOST_FIELD];
+        final int[] otherIn = new int[MOST_FIELD * MOST_STEPS];
+        final int[] queue = new int[MOST_FIELD];
+        final int[] leads = new int[MOST_FIELD];
         boolean made = false;
-        int steps = 0;
-        int[] nexts = new int[0];
         boolean turned = false;
-        int[] firstIn = new int[0];
-        int[] otherIn = new int[0];
-        int[] queue = new int[0];
-        int[] leads = new int[0];
+        int steps = 0;
 
         Field() {
         }
@@ -1193,7 +1202,6 @@ public final class NetHouse {
         private boolean follow(Net net, int i, int most) {
             all.load(i, from);
             boolean urged = net.urges(from);
-            nexts = withRoom(nexts, (i + 1) * steps);
             for (int s = 0; s < steps; s++) {
                 int next = NONE;
                 if (net.goesWhere(urged, from, s)) {
@@ -1256,7 +1264,9 @@ public final class NetHouse {
         /** The least marking that does not lead to one. */
         int leastAstray(int end) {
             turnRound();
-            Arrays.fill(leads, 0);
+            for (int i = 0; i < all.size; i++) {
+                leads[i] = 0;
+            }
             leads[end] = 1;
             queue[0] = end;
             return leastNotLeading(1);
@@ -1266,11 +1276,9 @@ public final class NetHouse {
             if (turned) {
                 return;
             }
-            firstIn = withRoom(firstIn, all.size);
-            otherIn = withRoom(otherIn, all.size * steps);
-            queue = withRoom(queue, all.size);
-            leads = withRoom(leads, all.size);
-            Arrays.fill(firstIn, -1);
+            for (int i = 0; i < all.size; i++) {
+                firstIn[i] = -1;
+            }
             for (int e = 0; e < all.size * steps; e++) {
                 if (nexts[e] >= 0) {
                     otherIn[e] = firstIn[nexts[e]];
@@ -1339,9 +1347,9 @@ public final class NetHouse {
 
     /** THE TREE. */
     private static final class Tree {
-        final Markings nodes = new Markings();
+        final Markings nodes = new Markings(MOST_TREE);
         final Holding child = new Holding();
-        int[] leaves = new int[0];
+        final int[] leaves = new int[MOST_TREE];
         boolean made = false;
         int endlessNode = -1;
         int endlessBy = -1;
@@ -1394,7 +1402,6 @@ public final class NetHouse {
         }
 
         private void addChild(int above, int step) {
-            leaves = withRoom(leaves, nodes.size + 1);
             leaves[nodes.size] = nodes.indexOf(child) >= 0 ? 1 : 0;
             nodes.add(child, above, step);
         }
@@ -1429,8 +1436,8 @@ public final class NetHouse {
         private static final int SIDE = 16, WIDE = 32;
 
         final int[] out = new int[SIDE];
-        long[] cells = new long[0];
-        int[] found = new int[0];
+        final long[] cells = new long[SIDE * WIDE];
+        final int[] found = new int[SIDE * SIDE];
         int rows = 0;
         int size = 0;
 
@@ -1450,7 +1457,8 @@ public final class NetHouse {
             size = 0;
             rows = rowsArePlaces ? net.places : net.steps;
             int columns = rowsArePlaces ? net.steps : net.places;
-            clearRows();
+            Arrays.fill(out, 0);
+            Arrays.fill(cells, 0L);
             for (int r = 0; r < rows; r++) {
                 for (int c = 0; c < columns; c++) {
                     cells[r * WIDE + c] = rowsArePlaces ? net.change(c, r) : net.change(r, c);
@@ -1464,15 +1472,6 @@ public final class NetHouse {
             }
             keepRest();
             return true;
-        }
-
-        private void clearRows() {
-            if (cells.length == 0) {
-                cells = new long[SIDE * WIDE];
-                found = new int[SIDE * SIDE];
-            }
-            Arrays.fill(out, 0);
-            Arrays.fill(cells, 0L);
         }
 
         private boolean clearColumn(int column) {
@@ -1555,36 +1554,25 @@ public final class NetHouse {
         }
     }
 
-    /** Least drains or traps, by their bits as numbers. */
+    /** The SETS. */
     private static final class SetList {
-        int[] sets = new int[0];
+        final int[] sets = new int[MOST_SETS];
         int size = 0;
-        int what = DRAIN;
-        int most = 0;
 
         SetList() {
         }
 
-        void collect(Net net, int ofKind, int atMost) {
+        void collect(Net net, int what, int most) {
             size = 0;
-            what = ofKind;
-            most = atMost;
-            gather(net, this, 0, net.places);
-        }
-
-        void add(int set) {
-            sets = withRoom(sets, size + 1);
-            sets[size] = set;
-            size++;
-        }
-
-        boolean hasOneWithin(int set) {
-            for (int i = 0; i < size; i++) {
-                if ((sets[i] & ~set) == 0) {
-                    return true;
+            int latest = 0;
+            for (int k = 0; k < most && k < MOST_SETS; k++) {
+                latest = leastBehind(net, what, latest, 0, net.places);
+                if (latest == 0) {
+                    return;
                 }
+                sets[k] = latest;
+                size = k + 1;
             }
-            return false;
         }
     }
 }

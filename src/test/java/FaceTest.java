@@ -21,6 +21,7 @@ public final class FaceTest {
         constants();
         words(withoutComments(source));
         lengths(source);
+        makes(withoutComments(source));
         due.end();
     }
 
@@ -79,7 +80,8 @@ public final class FaceTest {
         due.part("words");
         for (String word : List.of("throw", "throws", "try", "catch", "synchronized", "assert", "instanceof", "Object",
                 "HashMap", "Random", "System\\.nanoTime", "System\\.currentTimeMillis", "System\\.out", "Thread", "File",
-                "MAX_VALUE", "MIN_VALUE", "\\w+Exact", "->", "::", "@\\w+", "package", "double", "float")) {
+                "MAX_VALUE", "MIN_VALUE", "\\w+Exact", "->", "::", "@\\w+", "package", "double", "float",
+                "copyOf", "copyOfRange", "clone")) {
             Matcher m = Pattern.compile(Character.isLetter(word.charAt(0)) ? "\\b" + word + "\\b" : word).matcher(code);
             due.holds(word + " is not in the class", !m.find());
         }
@@ -102,6 +104,31 @@ public final class FaceTest {
             if (start >= 0 && lines[i].equals(lines[start].replaceAll("\\S.*", "") + "}")) {
                 due.holds("the method in line " + (start + 1) + " has " + (i - start) + " lines", i - start <= 60);
                 start = -1;
+            }
+        }
+    }
+
+    /** Rows and objects are made with the object: by a field that stays, or in a constructor. */
+    private static void makes(String code) {
+        due.part("what is made");
+        Pattern made = Pattern.compile("\\bnew\\b");
+        boolean inConstructor = false;
+        int found = 0;
+        for (String line : code.split("\n")) {
+            if (line.matches(" {4,8}\\S[^=;]*\\(.*\\) \\{")) {
+                inConstructor = line.matches(" {4,8}(public )?[A-Z]\\w*\\(.*\\) \\{");
+            }
+            if (made.matcher(line).find()) {
+                boolean ofField = line.matches(" {4,8}(private )?final [\\w\\[\\]]+ \\w+ = new .*");
+                due.holds("made in a call: " + line.strip(), ofField || inConstructor);
+                found++;
+            }
+        }
+        due.holds("some are made", found > 0);
+        for (Class<?> inside : NetHouse.class.getDeclaredClasses()) {
+            for (var field : inside.getDeclaredFields()) {
+                boolean stays = field.getType().isPrimitive() || Modifier.isFinal(field.getModifiers());
+                due.holds(field + " is made once", stays);
             }
         }
     }

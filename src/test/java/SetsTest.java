@@ -5,6 +5,7 @@ public final class SetsTest {
     public static void main(String[] args) {
         least();
         manySets();
+        moreThanAreTold();
         single();
         greatestOnes();
         freeNets();
@@ -101,6 +102,63 @@ public final class SetsTest {
         due.is("sets(0, 100)", x.sets(0, 100), 100);
         due.is("bits(99)", x.bits(99) > 0 ? 1 : 0, 1);
         due.is("bits(100)", x.bits(100), Due.BAD);
+    }
+
+    /** Every step puts everywhere: a drain has one of each of sixteen fours, and there are more than 500 least ones. */
+    private static void moreThanAreTold() {
+        due.part("promises 50 and 55, more sets than are told");
+        NetHouse x = net(16, 16);
+        int[] fours = new int[16];
+        for (int s = 0; s < 16; s++) {
+            for (int p = 0; p < 16; p++) {
+                int apart = (p - s + 16) % 16;
+                boolean takes = apart < 3 || apart == 4;
+                fours[s] |= takes ? 1 << p : 0;
+                x.arc(s, p, takes ? 1 : 0, 1);
+            }
+            x.mark(s, 1);
+        }
+        due.is("sets(0, 500)", x.sets(0, 500), 500);
+        int found = 0;
+        int latest = 0;
+        for (int set = 1; set < 1 << 16; set++) {
+            if (meetsEachLeast(set, fours)) {
+                if (found < 500) {
+                    due.is("bits(" + found + ")", x.bits(found), set);
+                }
+                found++;
+                latest = set;
+            }
+        }
+        due.holds("there are more", found > 500);
+        due.is("bits(500)", x.bits(500), Due.BAD);
+        due.is("sets(0, 499)", x.sets(0, 499), 499);
+        due.is("bare(), each holds", x.bare(), 0);
+        for (int p = 0; p < 16; p++) {
+            x.mark(p, (latest >> p & 1) == 1 ? 0 : 1);
+        }
+        due.is("bare(), the last one by its bits holds not", x.bare(), latest);
+    }
+
+    private static boolean meetsEachLeast(int set, int[] fours) {
+        if (!meetsEach(set, fours)) {
+            return false;
+        }
+        for (int p = 0; p < 16; p++) {
+            if ((set >> p & 1) == 1 && meetsEach(set & ~(1 << p), fours)) {
+                return false;
+            }
+        }
+        return true;
+    }
+
+    private static boolean meetsEach(int set, int[] fours) {
+        for (int four : fours) {
+            if ((set & four) == 0) {
+                return false;
+            }
+        }
+        return true;
     }
 
     private static void single() {
