@@ -28,10 +28,22 @@ final class FieldEdges {
         fault();
     }
 
+    /** 16 places and 16 steps, each of which moves a mark from the first to the last: 8000 markings. */
+    private static Scene largest() {
+        Scene scene = Scene.of("16* place 0; 16* step 0; mark 0 7999");
+        for (int s = 0; s < 16; s++) {
+            scene = scene.then("arc " + s + " 0 1 0; arc " + s + " 15 0 1");
+        }
+        return scene.then("field 8000 = 8000");
+    }
+
     private void field() {
         e.of(28, "THE FIELD of what there is now is made: how many MARKINGS.", () -> {
             e.run(Scenes.EMPTY, "field 1 = 1; count 6 = 1; home 0 = 1; find = 0; field 8000 = 1");
-            e.run(DRAIN, "field 1 = 1; mark 0 3; count 6 = 1; marking 0 0 = 0; field 4 = 4; marking 0 0 = 3; go 0; field 4 = 3; marking 0 0 = 2");
+            e.run(DRAIN, "field 1 = 1; mark 0 3; count 6 = 1; marking 0 0 = 0; field 4 = 4; marking 0 0 = 3; go 0",
+                "field 4 = 3; marking 0 0 = 2");
+            e.run(Scene.of("2* place 0; 2* step 0", Scenes.ring(2), "mark 0 7999"),
+                "field 8000 = 8000; next 7999 1 = 7998; next 0 0 = 1; home 0 = 1; stuck 1 = NONE; dead 0 = NONE");
             e.leaves(Scenes.BOUNDED, "field 10 = 10");
             e.changes(Scenes.BOUNDED.then("mark 0 1"), "field 8000 = 6", Look.Part.FIELD);
             e.changes(Scenes.UNFOUND, "field 50 = 10", Look.Part.FIELD);
@@ -51,7 +63,8 @@ final class FieldEdges {
             e.changes(Scenes.BOUNDED, "field 9 = SPENT", Look.Part.FIELD);
             e.changes(Scenes.BOUNDED, "field 1 = SPENT", Look.Part.FIELD);
             e.run(Scenes.BOUNDED, "field 9 = SPENT", NO_FIELD, "field 10 = 10; count 6 = 10");
-            e.run(DRAIN, "mark 0 7999; field 7999 = SPENT", NO_FIELD, "field 8000 = 8000; mark 0 8000; field 8000 = SPENT", NO_FIELD);
+            e.run(DRAIN, "mark 0 7999; field 7999 = SPENT", NO_FIELD, "field 8000 = 8000; mark 0 8000; field 8000 = SPENT",
+                NO_FIELD);
             e.run(SPRING, "field 1 = SPENT; field 8000 = SPENT", NO_FIELD);
             e.run(DRAIN, "mark 0 1; field 1 = SPENT; field 2 = 2");
         });
@@ -63,6 +76,7 @@ final class FieldEdges {
             e.run(Scenes.BOUNDED, "mark 0 9; marking 0 0 = 2; go 0; marking 0 0 = 2");
             e.run(Scenes.LONGEST, "marking 7999 0 = 0; marking 7998 0 = 1; marking 0 0 = 7999");
             e.run(Scenes.WIDEST, "marking 15 15 = 0; marking 13 15 = 1; marking 15 1 = 1");
+            e.run(largest(), "marking 7999 15 = 7999; marking 7999 0 = 0; marking 7998 15 = 7998; marking 0 15 = 0");
         });
         e.of(29, "BAD;", () -> {
             e.refuses(Scenes.BOUNDED, "BAD", "marking 0 -1", "marking 0 3", "marking 0 MIN", "marking 0 MAX");
@@ -87,12 +101,14 @@ final class FieldEdges {
         e.of(30, "To which MARKING a STEP leads from MARKING i;", () -> {
             e.leaves(Scenes.BOUNDED, "next 0 0 = 1", "next 0 1 = 2", "next 1 1 = 0", "next 8 2 = 9", "next 7 0 = 8");
             e.run(Scenes.LONGEST, "next 0 0 = 1; next 7998 0 = 7999");
+            e.run(largest(), "next 0 15 = 1; next 7998 0 = 7999; next 7998 15 = 7999; next 7999 15 = NONE");
             e.run(Scene.of("place 0; step 0"), "field 1 = 1; next 0 0 = 0");
         });
         e.of(30, "NONE: it does not GO there.", () -> {
             e.leaves(Scenes.BOUNDED, "next 2 1 = NONE", "next 9 0 = NONE", "next 9 2 = NONE");
             e.run(Scenes.LONGEST, "next 7999 0 = NONE");
-            e.run(Scenes.KINDS, "next 3 3 = 0; next 3 1 = NONE; arc 1 0 0 0; arc 1 1 0 0; need 1 0 0; field 50 = 4; next 0 1 = 0; next 3 1 = NONE");
+            e.run(Scenes.KINDS, "next 3 3 = 0; next 3 1 = NONE; arc 1 0 0 0; arc 1 1 0 0; need 1 0 0; field 50 = 4",
+                "next 0 1 = 0; next 3 1 = NONE");
         });
         e.of(30, "As for marking().", () -> {
             e.refuses(Scenes.BOUNDED, "BAD", "next 0 -1", "next 0 3", "next 0 MAX", "next -1 0", "next 10 0", "next MIN 0");
@@ -104,8 +120,10 @@ final class FieldEdges {
 
     private void way() {
         e.of(31, "THE WAY becomes the STEPS by which MARKING i came from number 0, each by FORMER and BY: how many.", () -> {
-            e.run(Scenes.BOUNDED, "way 9 = 5; count 5 = 5; walk 0 = 0; walk 1 = 0; walk 2 = 2; walk 3 = 2; walk 4 = 2; walk 5 = BAD; check = 5");
-            e.run(Scenes.BOUNDED, "way 0 = 0; count 5 = 0; walk 0 = BAD; way 3 = 1; walk 0 = 2; walk 1 = BAD; way 5 = 2; walk 0 = 0; walk 1 = 2");
+            e.run(Scenes.BOUNDED, "way 9 = 5; count 5 = 5; walk 0 = 0; walk 1 = 0; walk 2 = 2; walk 3 = 2; walk 4 = 2",
+                "walk 5 = BAD; check = 5");
+            e.run(Scenes.BOUNDED, "way 0 = 0; count 5 = 0; walk 0 = BAD; way 3 = 1; walk 0 = 2; walk 1 = BAD; way 5 = 2",
+                "walk 0 = 0; walk 1 = 2");
             e.run(Scenes.LONGEST, "way 7999 = 7999; count 5 = 7999; lay 0 = 8000; way 0 = 0; lay 0 = 1");
             e.changes(Scenes.BOUNDED, "way 9 = 5", Look.Part.WAY);
             e.changes(Scenes.BOUNDED, "way 0 = 0", Look.Part.WAY);
@@ -124,10 +142,12 @@ final class FieldEdges {
             e.run(DRAIN, "mark 0 2; field 3; row 0; find = 2; row 1; find = 2; set 0 1; find = 1");
             e.leaves(Scenes.BOUNDED.then("row 1; set 0 3"), "find = 2");
             e.run(Scenes.LONGEST, "row 1; set 0 1; find = 7998; set 0 7999; find = 0");
+            e.run(Scenes.WIDEST, "row 16; set 15 1; find = 13; row 2; set 1 1; find = 15");
         });
         e.of(32, "NONE.", () -> {
             e.leaves(Scenes.BOUNDED, "find = NONE");
-            e.run(Scenes.BOUNDED, "row 0; find = NONE; row 1; set 0 4; find = NONE; set 0 -1; find = NONE; set 0 -1000000000; find = NONE");
+            e.run(Scenes.BOUNDED, "row 0; find = NONE; row 1; set 0 4; find = NONE; set 0 -1; find = NONE",
+                "set 0 -1000000000; find = NONE");
             e.run(Scenes.BOUNDED, "row 3; set 0 2; set 1 1; set 2 1; find = NONE; set 0 1000000000; find = NONE");
             e.run(Scenes.LONGEST, "row 1; set 0 8000; find = NONE");
         });
@@ -165,10 +185,12 @@ final class FieldEdges {
             e.leaves(Scenes.BOUNDED, "stuck 0 = 9", "stuck 1 = 9", "stuck 2 = 9");
             e.run(LINE, "step 0; arc 1 2 1 0; mark 0 1; field 9 = 2; stuck 0 = 1; stuck 1 = 0");
             e.run(Scenes.LONGEST, "stuck 0 = 7999");
+            e.run(largest(), "stuck 15 = 7999");
         });
         e.of(34, "NONE: it LIVES.", () -> {
             e.leaves(Scenes.WIDEST, "stuck 0 = NONE", "stuck 15 = NONE");
-            e.run(LINE, "step 0; mark 0 1; field 9 = 2; stuck 1 = NONE; stuck 0 = 1; arc 1 1 1 0; arc 1 0 0 1; field 9 = 2; stuck 0 = NONE; stuck 1 = NONE");
+            e.run(LINE, "step 0; mark 0 1; field 9 = 2; stuck 1 = NONE; stuck 0 = 1; arc 1 1 1 0; arc 1 0 0 1; field 9 = 2",
+                "stuck 0 = NONE; stuck 1 = NONE");
         });
         e.of(34, "BAD;", () -> {
             e.refuses(Scenes.BOUNDED, "BAD", "stuck -1", "stuck 3", "stuck MIN", "stuck MAX");
@@ -187,6 +209,13 @@ final class FieldEdges {
             e.leaves(Scenes.BOUNDED, "home 0 = 0", "home 8 = 0", "home 9 = 1");
             e.run(Scenes.WIDEST, "home 0 = 1; home 15 = 1");
             e.run(Scenes.LONGEST, "home 7999 = 1; home 7998 = 0");
+            e.run(largest(), "home 7999 = 1; home 0 = 0");
+            e.run(Scene.of("3* place 0; 2* step 0", Scenes.ring(2), "mark 0 1; field 2; home 0 = 1; home 1 = 1",
+                "arc 1 1 0 0"),
+                "arc 1 2 1 0; field 2 = 2; home 0 = 0; home 1 = 1");
+            e.run(Scene.of("3* place 0; 2* step 0", Scenes.ring(2), "mark 0 5; field 6; home 0 = 1; home 5 = 1",
+                "arc 1 1 0 0"),
+                "arc 1 2 1 0; field 6 = 6; home 3 = 0; home 4 = 0; home 5 = 1; stuck 1 = 0");
             e.run(Scenes.EMPTY, "field 1; home 0 = 1");
         });
         e.of(35, "As for marking().", () -> {
@@ -198,7 +227,7 @@ final class FieldEdges {
 
     private void works() {
         e.of(36, "Whether THE NET WORKS: 0;", () -> {
-            e.run(LINE, "works 0 1 2 = 0; fault = NONE; works 0 1 8000 = 0");
+            e.run(LINE, "works 0 1 2 = 0; fault = NONE; works 0 1 8000 = 0; mark 0 2; field 3 = 3; works 0 1 2 = 0");
             e.run(Scene.of("place 0"), "works 0 0 1 = 0; fault = NONE");
             e.run(Scenes.WIDEST, "works 0 15 16 = 0; works 15 0 16 = 0; fault = NONE");
         });
@@ -210,7 +239,8 @@ final class FieldEdges {
             e.run(tooSoon(), "step 0; arc 2 2 2 0; works 0 1 9 = 2; works 0 2 9 = 1");
         });
         e.of(36, "THE FIELD is that one then.", () -> {
-            e.run(Scenes.BOUNDED, "works 0 2 50 = 0; count 6 = 3; marking 0 0 = 1; marking 0 1 = 0; marking 0 2 = 0; marking 2 2 = 1; many 0 = 2");
+            e.run(Scenes.BOUNDED, "works 0 2 50 = 0; count 6 = 3; marking 0 0 = 1; marking 0 1 = 0; marking 0 2 = 0",
+                "marking 2 2 = 1; many 0 = 2");
             e.run(Scenes.BOUNDED, "works 2 0 50 = 1; count 6 = 1; marking 0 2 = 1; marking 0 0 = 0; marking 1 0 = BAD");
             e.changes(Scenes.BOUNDED, "works 0 2 50 = 0", Look.Part.FIELD, Look.Part.FAULT);
             e.changes(Scenes.BOUNDED, "works 0 0 3 = 1", Look.Part.FIELD);
@@ -243,18 +273,21 @@ final class FieldEdges {
 
     private void fault() {
         e.of(37, "Of the latest works() that was not refused:", () -> {
-            e.run(Scenes.BOUNDED, "fault = 2; works 0 9 50 = BAD; fault = 2; works 0 2 0 = BAD; fault = 2; works 0 2 2 = SPENT; fault = 2");
+            e.run(Scenes.BOUNDED, "fault = 2; works 0 9 50 = BAD; fault = 2; works 0 2 0 = BAD; fault = 2",
+                "works 0 2 2 = SPENT; fault = 2");
             e.run(Scenes.BOUNDED, "place 1; works 0 2 50 = NO; fault = 2; arc 0 0 1 0; mark 0 1; fault = 2");
             e.run(Scenes.BOUNDED, "works 0 2 50 = 0; fault = NONE; works 0 0 50 = 1; fault = 2; field 50; fault = 2");
             e.leaves(Scenes.BOUNDED, "fault = 2");
         });
         e.of(37, "the least MARKING that leads not there (1),", () -> {
             e.run(LINE, "works 0 0 9 = 1; fault = 1; works 0 2 9 = 1; fault = 0; works 1 0 9 = 1; fault = 0");
-            e.run(LINE.then("2* step 0; arc 1 0 1 0; arc 1 2 0 1; arc 2 0 1 0"), "works 0 1 9 = 1; fault = 2; works 0 2 9 = 1; fault = 1");
+            e.run(LINE.then("2* step 0; arc 1 0 1 0; arc 1 2 0 1; arc 2 0 1 0"),
+                "works 0 1 9 = 1; fault = 2; works 0 2 9 = 1; fault = 1");
         });
         e.of(37, "that has something at e (2),", () -> {
             e.run(tooSoon(), "works 0 1 9 = 2; fault = 1");
-            e.run(tooSoon().then("place 0; step 0; arc 0 1 0 0; arc 0 3 0 1; arc 2 3 1 0; arc 2 1 0 1"), "works 0 1 9 = 2; fault = 2");
+            e.run(tooSoon().then("place 0; step 0; arc 0 1 0 0; arc 0 3 0 1; arc 2 3 1 0; arc 2 1 0 1"),
+                "works 0 1 9 = 2; fault = 2");
         });
         e.of(37, "the least STEP that goes nowhere (3);", () -> {
             e.run(LINE, "step 0; arc 1 2 1 0; works 0 1 9 = 3; fault = 1; step 0; arc 2 2 1 0; works 0 1 9 = 3; fault = 1");

@@ -9,7 +9,8 @@ final class GoingEdges {
     static final Scene FILLING = Scene.of("2* place 0; step 0; arc 0 0 1 0; arc 0 1 0 9; mark 0 5");
 
     /** Step 0 is urgent and may, step 1 is not and may, step 2 may not. */
-    static final Scene URGED = Scene.of("2* place 0; step 3; 2* step 0; arc 0 0 1 0; arc 1 0 1 0; arc 2 1 1 0; mark 0 2; go 0; row 2; lay 1");
+    static final Scene URGED = Scene.of("2* place 0; step 3; 2* step 0; arc 0 0 1 0; arc 1 0 1 0; arc 2 1 1 0; mark 0 2",
+        "go 0; row 2; lay 1");
 
     private final Edges e;
 
@@ -77,7 +78,8 @@ final class GoingEdges {
 
     private void run() {
         e.of(18, "Again and again, n times (1 .. 1000) at most, the least STEP that GOES goes,", () -> {
-            Scene many = Scene.of("2* place 0; 3* step 0; step 3; arc 0 1 1 0; arc 1 0 1 0; arc 2 0 1 0; arc 3 1 2 0; mark 0 5000");
+            Scene many = Scene.of("2* place 0; 3* step 0; step 3; arc 0 1 1 0; arc 1 0 1 0; arc 2 0 1 0; arc 3 1 2 0",
+                "mark 0 5000");
             e.run(many, "run 1 = 1; many 0 = 4999; back = 1; run 1000 = 1000; many 0 = 4000; count 3 = 1001; count 2 = 256");
             e.run(many, "mark 1 3; run 2 = 2; many 1 = 0; back = 0; back = 3; run 3 = 3; back = 1; back = 0; back = 3");
             e.changes(Scenes.BOUNDED, "run 2 = 2", Look.Part.MARKS, Look.Part.PAST, Look.Part.GOINGS, Look.Part.DRAINS);
@@ -105,7 +107,8 @@ final class GoingEdges {
     private void back() {
         e.of(19, "The latest going of THE PAST is undone (PLACES have what they had, THINGS in their order): the STEP.", () -> {
             e.changes(Scenes.BOUNDED, "back = 1", Look.Part.MARKS, Look.Part.PAST, Look.Part.DRAINS);
-            e.run(Scenes.BOUNDED, "back = 1; many 0 = 1; many 1 = 2; back = 0; back = 0; many 0 = 3; many 1 = 0; count 3 = 4");
+            e.run(Scenes.BOUNDED, "back = 1; many 0 = 1; many 1 = 2; back = 0; back = 0; many 0 = 3; many 1 = 0",
+                "count 3 = 4");
             e.run(Scenes.COLOURED, "back = 1; back = 0; kind 1 0 = 0; kind 1 1 = 3; kind 1 2 = 1; many 1 = 3; many 2 = 3",
                 "back = 2; back = 0; kind 1 0 = 0; kind 1 1 = 2; kind 1 2 = 3; kind 1 3 = 1; many 1 = 4; many 2 = 1");
             e.run(CAROUSEL, "run 300 = 300; back = 3; back = 2; back = 1; back = 0; 251* back; count 2 = 1; back = 0",
@@ -115,7 +118,8 @@ final class GoingEdges {
             e.refuses(Scenes.EMPTY, "NO", "back");
             e.refuses(Scenes.BOUNDED.then("3* back"), "NO", "back");
             e.refuses(Scenes.COLOURED.then("thing 1 0"), "NO", "back");
-            e.run(Scene.of("place 0; step 0; arc 0 0 1 0; mark 0 1; go 0"), "go 0 = NO; back = 0; back = NO; many 0 = 1; count 3 = 1");
+            e.run(Scene.of("place 0; step 0; arc 0 0 1 0; mark 0 1; go 0"),
+                "go 0 = NO; back = 0; back = NO; many 0 = 1; count 3 = 1");
             e.run(CAROUSEL, "run 257 = 257; 256* back; back = NO; many 1 = 1; kind 4 4 = 0; count 2 = 0; count 3 = 257");
         });
     }

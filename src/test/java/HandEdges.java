@@ -19,9 +19,11 @@ final class HandEdges {
 
     private void row() {
         e.of(20, "THE ROW has n numbers, all 0: n.", () -> {
-            e.run(Scenes.EMPTY, "row 0 = 0; count 4 = 0; get 0 = BAD; row 1 = 1; get 0 = 0; get 1 = BAD; row 16 = 16; count 4 = 16; get 15 = 0");
+            e.run(Scenes.EMPTY, "row 0 = 0; count 4 = 0; get 0 = BAD; row 1 = 1; get 0 = 0; get 1 = BAD; row 16 = 16",
+                "count 4 = 16; get 15 = 0");
             e.run(FIVE, "row 5 = 5; get 0 = 0; get 1 = 0; get 2 = 0; get 3 = 0; get 4 = 0");
-            e.run(FIVE, "row 2 = 2; row 5 = 5; get 0 = 0; get 2 = 0; get 4 = 0; row 0 = 0; get 0 = BAD; row 16 = 16; get 4 = 0");
+            e.run(FIVE, "row 2 = 2; row 5 = 5; get 0 = 0; get 2 = 0; get 4 = 0; row 0 = 0; get 0 = BAD; row 16 = 16",
+                "get 4 = 0");
             e.changes(Scenes.BOUNDED, "row 5 = 5", Look.Part.ROW);
             e.changes(Scenes.WIDEST, "row 0 = 0", Look.Part.ROW);
         });
@@ -60,7 +62,8 @@ final class HandEdges {
         e.of(23, "n numbers of THE ROW, from place a on, are copied, as they are, to places b and on: 0.", () -> {
             e.run(FIVE, "copy 0 1 4 = 0; get 0 = 1; get 1 = 1; get 2 = 2; get 3 = 3; get 4 = 4");
             e.run(FIVE, "copy 1 0 4 = 0; get 0 = 2; get 1 = 3; get 2 = 4; get 3 = 5; get 4 = 5");
-            e.run(FIVE, "copy 0 0 5 = 0; get 0 = 1; get 4 = 5; copy 0 4 1 = 0; get 4 = 1; get 3 = 4; copy 3 0 1 = 0; get 0 = 4");
+            e.run(FIVE, "copy 0 0 5 = 0; get 0 = 1; get 4 = 5; copy 0 4 1 = 0; get 4 = 1; get 3 = 4; copy 3 0 1 = 0",
+                "get 0 = 4");
             e.run(LONGEST_ROW, "copy 0 1 15 = 0; get 15 = 14; get 1 = 4; get 2 = 1; get 0 = 4");
             e.changes(Scenes.BOUNDED, "copy 0 3 2 = 0", Look.Part.ROW);
             e.run(Scenes.BOUNDED, "copy 0 3 2 = 0; get 3 = 4; get 4 = -7; get 0 = 4; get 1 = -7; get 2 = 0");
@@ -71,7 +74,8 @@ final class HandEdges {
             e.refuses(Scenes.EMPTY, "BAD", "copy 0 0 -1");
         });
         e.of(23, "or one of these is no place of THE ROW", () -> {
-            e.refuses(Scenes.BOUNDED, "BAD", "copy 0 1 5", "copy 1 0 5", "copy 0 0 6", "copy 5 0 1", "copy 0 5 1", "copy -1 0 1",
+            e.refuses(Scenes.BOUNDED, "BAD", "copy 0 1 5", "copy 1 0 5", "copy 0 0 6", "copy 5 0 1", "copy 0 5 1",
+                "copy -1 0 1",
                 "copy 0 -1 1", "copy -1 0 5", "copy 4 0 2", "copy 0 4 2", "copy MIN 0 1", "copy 0 MIN 1", "copy MAX 0 1",
                 "copy 0 MAX 1", "copy 0 0 MAX", "copy 1 0 MAX", "copy 0 1 MAX", "copy MAX 0 MAX", "copy 0 MAX MAX");
             e.run(Scenes.BOUNDED, "copy 3 0 2 = 0; copy 0 3 2 = 0; copy 4 0 1 = 0; copy 0 4 1 = 0; copy 0 0 5 = 0");
@@ -80,7 +84,8 @@ final class HandEdges {
         });
         e.of(23, "(n 0: a, b are not 0 .. how many it has).", () -> {
             e.leaves(Scenes.BOUNDED, "copy 0 0 0 = 0", "copy 5 0 0 = 0", "copy 0 5 0 = 0", "copy 5 5 0 = 0");
-            e.refuses(Scenes.BOUNDED, "BAD", "copy 6 0 0", "copy 0 6 0", "copy -1 0 0", "copy 0 -1 0", "copy MAX 0 0", "copy 0 MIN 0");
+            e.refuses(Scenes.BOUNDED, "BAD", "copy 6 0 0", "copy 0 6 0", "copy -1 0 0", "copy 0 -1 0", "copy MAX 0 0",
+                "copy 0 MIN 0");
             e.run(LONGEST_ROW, "copy 16 16 0 = 0; copy 17 0 0 = BAD; copy 0 17 0 = BAD");
             e.run(Scenes.EMPTY, "copy 0 0 0 = 0; copy 1 0 0 = BAD; copy 0 1 0 = BAD");
         });
@@ -105,7 +110,8 @@ final class HandEdges {
             e.refuses(Scenes.LONGEST, "FULL", "lay 0");
         });
         e.of(25, "THE WAY is empty: how many it had.", () -> {
-            e.run(Scenes.BOUNDED, "lift = 3; count 5 = 0; walk 0 = BAD; lift = 0; check = 0; lay 1 = 1; walk 0 = 1; walk 1 = BAD");
+            e.run(Scenes.BOUNDED, "lift = 3; count 5 = 0; walk 0 = BAD; lift = 0; check = 0; lay 1 = 1; walk 0 = 1",
+                "walk 1 = BAD");
             e.run(Scenes.LONGEST, "lift = 8000; lift = 0; count 5 = 0");
             e.changes(Scenes.BOUNDED, "lift = 3", Look.Part.WAY);
             e.leaves(Scenes.EMPTY, "lift = 0");
@@ -123,7 +129,8 @@ final class HandEdges {
 
     private void check() {
         e.of(27, "How many STEPS of THE WAY go, one behind the other, from what there is now, until one does not GO", () -> {
-            e.run(Scenes.BOUNDED, "check = 3; lay 0 = 4; check = 4; lay 2 = 5; check = 5; lay 2 = 6; check = 5; lay 0 = 7; check = 5");
+            e.run(Scenes.BOUNDED, "check = 3; lay 0 = 4; check = 4; lay 2 = 5; check = 5; lay 2 = 6; check = 5; lay 0 = 7",
+                "check = 5");
             e.run(Scenes.BOUNDED, "mark 1 0; check = 0; mark 1 1; mark 0 0; check = 1; lift; check = 0");
             e.run(Scenes.LONGEST, "check = 7999; mark 0 8000; check = 8000; mark 0 1; check = 1");
             e.run(GoingEdges.URGED, "check = 0; lift; lay 0; lay 1; check = 1; mark 0 2; check = 1; lay 0; check = 1");

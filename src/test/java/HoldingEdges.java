@@ -55,7 +55,8 @@ final class HoldingEdges {
             e.refuses(Scene.of("place 0; mark 0 20"), "NO", "thing 0 0");
         });
         e.of(11, "FULL", () -> {
-            e.run(Scene.of("place 1; place 1; 19* thing 0 1"), "thing 0 3 = 20; thing 0 2 = FULL; many 0 = 20; kind 0 19 = 3",
+            e.run(Scene.of("place 1; place 1; 19* thing 0 1"),
+                "thing 0 3 = 20; thing 0 2 = FULL; many 0 = 20; kind 0 19 = 3",
                 "kind 0 20 = BAD; thing 1 2 = 1; sweep 0 = 20; thing 0 2 = 1");
             e.refuses(Scenes.FULL_OF_THINGS, "FULL", "thing 1 0", "thing 1 3");
         });
@@ -63,7 +64,8 @@ final class HoldingEdges {
 
     private void sweep() {
         e.of(12, "A COLOURED PLACE has no THINGS: how many it had.", () -> {
-            e.run(Scenes.COLOURED, "sweep 1 = 2; many 1 = 0; kind 1 0 = BAD; sweep 1 = 0; many 2 = 5; thing 1 2 = 1; kind 1 0 = 2");
+            e.run(Scenes.COLOURED, "sweep 1 = 2; many 1 = 0; kind 1 0 = BAD; sweep 1 = 0; many 2 = 5; thing 1 2 = 1",
+                "kind 1 0 = 2");
             e.run(Scenes.FULL_OF_THINGS, "sweep 1 = 20; many 1 = 0; thing 1 0 = 1");
             e.changes(Scenes.COLOURED, "sweep 1 = 2", Look.Part.MARKS, Look.Part.PAST, Look.Part.DRAINS);
             e.run(Scene.of("place 1; step 0; go 0"), "count 2 = 1; sweep 0 = 0; count 2 = 0; back = NO; count 3 = 1");
@@ -131,7 +133,8 @@ final class HoldingEdges {
         });
         e.of(15, "NO: there is nothing anywhere.", () -> {
             e.refuses(Scene.of("place 0; place 1"), "NO", "share 0", "share 1");
-            e.run(Scene.of("place 0; place 1; thing 1 0"), "share 0 = 0; share 1 = 1000; sweep 1; share 0 = NO; share 1 = NO");
+            e.run(Scene.of("place 0; place 1; thing 1 0"),
+                "share 0 = 0; share 1 = 1000; sweep 1; share 0 = NO; share 1 = NO");
             e.run(Scene.of("place 0; place 1; mark 0 1"), "share 0 = 1000; share 1 = 0; mark 0 0; share 0 = NO");
         });
     }

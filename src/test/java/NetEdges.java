@@ -3,8 +3,8 @@ final class NetEdges {
     private static final Look.Part[] FOUND = {Look.Part.PAST, Look.Part.FIELD, Look.Part.TREE, Look.Part.WEIGHTS,
         Look.Part.ROUNDS, Look.Part.SETS};
     private static final String NOTHING_FOUND =
-        "count 2 = 0; count 6 = 0; count 7 = 0; count 8 = 0; count 9 = 0; count 10 = 0; back = NO; find = NO; cover = NO;"
-            + "marking 0 0 = NO; node 0 0 = NO; weight 0 0 = BAD; round 0 0 = BAD; bits 0 = BAD";
+        "count 2 = 0; count 6 = 0; count 7 = 0; count 8 = 0; count 9 = 0; count 10 = 0; back = NO;"
+            + "find = NO; cover = NO; marking 0 0 = NO; node 0 0 = NO; weight 0 0 = BAD; round 0 0 = BAD; bits 0 = BAD";
 
     private final Edges e;
 

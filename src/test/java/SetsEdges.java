@@ -2,7 +2,8 @@
 final class SetsEdges {
     /** Two rings, 0 and 3, 1 and 2, and place 4 into which step 0 puts. */
     static final Scene RINGS = Scene.of("5* place 0; 4* step 0",
-        "arc 0 0 1 0; arc 0 3 0 1; arc 1 3 1 0; arc 1 0 0 1; arc 2 1 1 0; arc 2 2 0 1; arc 3 2 1 0; arc 3 1 0 1; arc 0 4 0 1",
+        "arc 0 0 1 0; arc 0 3 0 1; arc 1 3 1 0; arc 1 0 0 1; arc 2 1 1 0; arc 2 2 0 1; arc 3 2 1 0; arc 3 1 0 1",
+        "arc 0 4 0 1",
         "mark 0 1; go 0; row 2; lay 0");
 
     private static final Scene SIXTEEN = Scene.of("16* place 0; row 1; sets 0 500");
@@ -41,11 +42,14 @@ final class SetsEdges {
             e.run(SIXTEEN, "sets 0 500 = 16; bits 0 = 1; bits 1 = 2; bits 15 = 32768; sets 1 500 = 16; bits 15 = 32768");
             e.run(Scenes.EMPTY, "sets 0 1 = 0; sets 1 500 = 0; count 10 = 0");
             e.run(Scene.of("place 0; step 0; arc 0 0 0 1"), "sets 0 1 = 0; sets 1 1 = 1; bits 0 = 1");
-            e.run(Scene.of("place 0; step 0; arc 0 0 1 0"), "sets 1 1 = 0; sets 0 1 = 1; bits 0 = 1");
+            e.run(Scene.of("place 0; step 0; arc 0 0 1 0"), "sets 1 1 = 0; sets 0 1 = 1; bits 0 = 1; sets 1 1 = 0",
+                "count 10 = 0; bits 0 = BAD");
         });
         e.of(50, "the first most ones (1 .. 500): how many these are.", () -> {
-            e.run(RINGS, "sets 1 1 = 1; bits 0 = 6; bits 1 = BAD; sets 1 2 = 2; bits 1 = 9; sets 1 3 = 3; sets 1 4 = 3; sets 1 500 = 3");
-            e.run(manySets(), "sets 0 500 = 500; count 10 = 500; bits 500 = BAD; sets 0 499 = 499; bits 499 = BAD; sets 0 1 = 1");
+            e.run(RINGS, "sets 1 1 = 1; bits 0 = 6; bits 1 = BAD; sets 1 2 = 2; bits 1 = 9; sets 1 3 = 3; sets 1 4 = 3",
+                "sets 1 500 = 3");
+            e.run(manySets(), "sets 0 500 = 500; count 10 = 500; bits 500 = BAD; sets 0 499 = 499; bits 499 = BAD",
+                "sets 0 1 = 1");
         });
         e.of(50, "They are the SETS.", () -> {
             e.leaves(Scenes.BOUNDED, "sets 0 9 = 1");
@@ -55,7 +59,8 @@ final class SetsEdges {
             e.run(Scenes.BOUNDED, "sets 1 9 = 1; bits 0 = 4; arc 2 1 0 0; count 10 = 0; bits 0 = BAD");
         });
         e.of(50, "BAD", () -> {
-            e.refuses(Scenes.BOUNDED, "BAD", "sets -1 9", "sets 2 9", "sets 0 0", "sets 0 -1", "sets 1 501", "sets MIN 9", "sets MAX 9",
+            e.refuses(Scenes.BOUNDED, "BAD", "sets -1 9", "sets 2 9", "sets 0 0", "sets 0 -1", "sets 1 501", "sets MIN 9",
+                "sets MAX 9",
                 "sets 0 MIN", "sets 1 MAX");
             e.refuses(Scenes.COLOURED, "BAD", "sets 0 0", "sets 0 501");
             e.refuses(Scenes.EMPTY, "BAD", "sets 0 0", "sets 2 1");
@@ -78,7 +83,8 @@ final class SetsEdges {
 
     private void isSet() {
         e.of(52, "Whether a set is a DRAIN (what 0), a TRAP (1): 1, 0.", () -> {
-            e.leaves(RINGS, "isSet 9 0 = 1", "isSet 1 0 = 0", "isSet 16 0 = 0", "isSet 16 1 = 1", "isSet 31 0 = 1", "isSet 31 1 = 1");
+            e.leaves(RINGS, "isSet 9 0 = 1", "isSet 1 0 = 0", "isSet 16 0 = 0", "isSet 16 1 = 1", "isSet 31 0 = 1",
+                "isSet 31 1 = 1");
             e.run(RINGS, "isSet 15 0 = 1; isSet 17 0 = 0; isSet 17 1 = 1; isSet 24 1 = 0; isSet 25 0 = 1; isSet 8 1 = 0");
             e.run(SIXTEEN, "isSet 65535 0 = 1; isSet 65535 1 = 1; isSet 32768 0 = 1");
         });
@@ -99,13 +105,16 @@ final class SetsEdges {
 
     private void greatest() {
         e.of(53, "THE GREATEST DRAIN (what 0), TRAP (1) within a set.", () -> {
-            e.leaves(RINGS, "greatest 31 0 = 31", "greatest 30 0 = 6", "greatest 30 1 = 22", "greatest 8 0 = 0", "greatest 0 0 = 0", "greatest 0 1 = 0");
+            e.leaves(RINGS, "greatest 31 0 = 31", "greatest 30 0 = 6", "greatest 30 1 = 22", "greatest 8 0 = 0",
+                "greatest 0 0 = 0", "greatest 0 1 = 0");
             e.run(SIXTEEN, "greatest 65535 0 = 65535; greatest 32768 1 = 32768");
             e.leaves(Scenes.EMPTY, "greatest 0 0 = 0", "greatest 0 1 = 0");
-            e.run(falling(), "greatest 65535 0 = 0; greatest 65535 1 = 65535; arc 15 15 0 0; greatest 65535 0 = 65535; greatest 32767 0 = 0");
+            e.run(falling(), "greatest 65535 0 = 0; greatest 65535 1 = 65535; arc 15 15 0 0; greatest 65535 0 = 65535",
+                "greatest 32767 0 = 0");
         });
         e.of(53, "BAD, as for isSet().", () -> {
-            e.refuses(RINGS, "BAD", "greatest 9 -1", "greatest 9 2", "greatest 32 0", "greatest -1 1", "greatest MIN 0", "greatest MAX 1");
+            e.refuses(RINGS, "BAD", "greatest 9 -1", "greatest 9 2", "greatest 32 0", "greatest -1 1", "greatest MIN 0",
+                "greatest MAX 1");
             e.refuses(SIXTEEN, "BAD", "greatest 65536 0");
             e.refuses(Scenes.EMPTY, "BAD", "greatest 1 0", "greatest 0 2");
         });
@@ -156,11 +165,13 @@ final class SetsEdges {
         });
         e.of(56, "2 goings of THE PAST,", () -> {
             e.leaves(Scenes.BOUNDED, "count 2 = 3");
-            e.run(GoingEdges.CAROUSEL, "count 2 = 0; run 255; count 2 = 255; run 1; count 2 = 256; run 1; count 2 = 256; back; count 2 = 255; run 2; count 2 = 256; run 1000; count 2 = 256");
+            e.run(GoingEdges.CAROUSEL, "count 2 = 0; run 255; count 2 = 255; run 1; count 2 = 256; run 1; count 2 = 256",
+                "back; count 2 = 255; run 2; count 2 = 256; run 1000; count 2 = 256");
         });
         e.of(56, "3 goings in all (undone ones, too),", () -> {
             e.leaves(Scenes.BOUNDED, "count 3 = 4");
-            e.run(GoingEdges.CAROUSEL, "run 1000; count 3 = 1000; back; count 3 = 1000; go 3; count 3 = 1001; mark 0 1; arc 0 0 1 0; count 3 = 1001");
+            e.run(GoingEdges.CAROUSEL, "run 1000; count 3 = 1000; back; count 3 = 1000; go 3; count 3 = 1001; mark 0 1",
+                "arc 0 0 1 0; count 3 = 1001");
         });
         e.of(56, "4 numbers of THE ROW,", () -> {
             e.leaves(Scenes.BOUNDED, "count 4 = 5");
@@ -192,7 +203,8 @@ final class SetsEdges {
         });
         e.of(56, "(0 without).", () -> {
             e.leaves(Scenes.UNFOUND, "count 6 = 0", "count 7 = 0", "count 8 = 0", "count 9 = 0", "count 10 = 0");
-            e.run(Scenes.BOUNDED, "field 9 = SPENT; count 6 = 0; tree 18 = SPENT; count 7 = 0; arc 0 0 1 0; count 8 = 0; count 9 = 0; count 10 = 0");
+            e.run(Scenes.BOUNDED, "field 9 = SPENT; count 6 = 0; tree 18 = SPENT; count 7 = 0; arc 0 0 1 0; count 8 = 0",
+                "count 9 = 0; count 10 = 0");
         });
         e.of(56, "BAD", () -> {
             e.refuses(Scenes.BOUNDED, "BAD", "count -1", "count 11", "count MIN", "count MAX");
